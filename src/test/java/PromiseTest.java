@@ -33,6 +33,7 @@ public final class PromiseTest {
         promise25ErrorCount();
         promise26Digest();
         wrongInputsChangeNothingElse();
+        removedNodesLeaveNoTrace();
         System.out.println(wrong == 0 ? "all answers are as due" : wrong + " answers are not as due");
         if (wrong != 0) {
             System.exit(1);
@@ -233,6 +234,11 @@ public final class PromiseTest {
         dueErrors("8", t, 2, 0, 0);
         due("8: undo", t.undo(), 2);
         due("8: previous after undo", t.setMode(0), 2);
+        t = made(1, 60, 60, 1, 1, 1);
+        t.setMode(0);
+        dueRect("8: laid out anew", t, 3, 40, 0, 20, 60);
+        t.undo();
+        dueRect("8: laid out anew by undo", t, 3, 0, 40, 60, 20);
     }
 
     private static void promise09NodeCount() {
@@ -337,6 +343,10 @@ public final class PromiseTest {
         dueRect("strip: first strip", t, 1, 0, 0, 30, 40);
         dueRect("strip: first strip", t, 2, 30, 0, 30, 40);
         dueRect("strip: second strip", t, 3, 0, 40, 60, 20);
+        TreemapLayout late = made(1, 20, 40, 2, 1, 1);
+        dueRect("strip: equal averages in a later strip", late, 1, 0, 0, 20, 20);
+        dueRect("strip: equal averages in a later strip", late, 2, 0, 20, 10, 20);
+        dueRect("strip: equal averages in a later strip", late, 3, 10, 20, 10, 20);
         t.setPadding(2);
         dueRect("strip: padding", t, 1, 2, 2, 28, 37);
         dueRect("strip: padding", t, 2, 30, 2, 28, 37);
@@ -596,6 +606,22 @@ public final class PromiseTest {
             h = 31 * h + v;
         }
         return h;
+    }
+
+    private static void removedNodesLeaveNoTrace() {
+        TreemapLayout t = made(0, 100, 50, 1);
+        t.addNode(1, 1);
+        t.addNode(1, 1);
+        due("removed: nodeAt before", t.nodeAt(0, 49), 3);
+        t.removeLeaf(3);
+        t.removeLeaf(2);
+        due("removed: nodeAt", t.nodeAt(0, 49), 1);
+        due("removed: leafCount", t.leafCount(), 1);
+        due("removed: leafPixels", t.leafPixels(), 5000);
+        due("removed: worstAspect", t.worstAspect(), Float.floatToIntBits(2f));
+        due("removed: averageAspect", t.averageAspect(), Float.floatToIntBits(2f));
+        due("removed: changeBy", t.changeBy(1, 99), 0);
+        due("removed: x", t.x(2), -2);
     }
 
     private static void wrongInputsChangeNothingElse() {
