@@ -353,7 +353,7 @@ public final class TreemapLayout {
 
         boolean isWithin(int node, int ancestor) {
             int current = node;
-            for (int step = 0; step < MAX_NODES && current >= 0; step++) {
+            for (int step = 0; step < MAX_NODES && has(current); step++) {
                 if (current == ancestor) {
                     return true;
                 }
@@ -371,6 +371,9 @@ public final class TreemapLayout {
         }
 
         void takeOut(int node) {
+            if (!has(node) || node == ROOT) {
+                return;
+            }
             for (int next = node + 1; next < count; next++) {
                 ownSizes[next - 1] = ownSizes[next];
                 parents[next - 1] = parents[next];
@@ -659,8 +662,9 @@ public final class TreemapLayout {
             stripShares.clear();
             int from = 0;
             for (int end = 1; end <= kidCount; end++) {
-                if (end == kidCount
-                        || averageRatio(from, end + 1, unit) > averageRatio(from, end, unit)) {
+                boolean isComplete = end == kidCount
+                        || averageRatio(from, end + 1, unit) > averageRatio(from, end, unit);
+                if (isComplete && stripShares.count < MAX_NODES) {
                     stripEnds[stripShares.count] = end;
                     stripShares.add(sumOfSizes(from, end));
                     from = end;
@@ -669,12 +673,12 @@ public final class TreemapLayout {
         }
 
         private float averageRatio(int from, int end, float unit) {
-            float thickness = (float) sumOfSizes(from, end) * unit / (float) free.wide;
+            float thickness = thicknessOf(sumOfSizes(from, end), unit, free.wide);
             float sum = 0f;
             for (int i = from; i < end; i++) {
                 sum += ratio(kidSizes[i], unit, thickness);
             }
-            return sum / (float) (end - from);
+            return end > from ? sum / (float) (end - from) : 0f;
         }
 
         void squarify(Rects rects) {
@@ -724,7 +728,7 @@ public final class TreemapLayout {
         }
 
         private float worstRatio(int from, int end, float unit, int side) {
-            float thickness = (float) sumOfSizes(from, end) * unit / (float) side;
+            float thickness = thicknessOf(sumOfSizes(from, end), unit, side);
             float worst = 0f;
             for (int i = from; i < end; i++) {
                 float next = ratio(kidSizes[i], unit, thickness);
@@ -780,11 +784,19 @@ public final class TreemapLayout {
         }
 
         private float pixelsPerSize(int from) {
-            return (float) (free.wide * free.high) / (float) sumOfSizes(from, kidCount);
+            int total = sumOfSizes(from, kidCount);
+            return total > 0 ? (float) (free.wide * free.high) / (float) total : 0f;
+        }
+
+        private static float thicknessOf(int total, float unit, int side) {
+            return side > 0 ? (float) total * unit / (float) side : 0f;
         }
 
         private static float ratio(int kidSize, float unit, float thickness) {
-            float length = (float) kidSize * unit / thickness;
+            float length = thickness > 0f ? (float) kidSize * unit / thickness : 0f;
+            if (length <= 0f) {
+                return 0f;
+            }
             float lying = length / thickness;
             float standing = thickness / length;
             return lying >= standing ? lying : standing;

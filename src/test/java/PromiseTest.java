@@ -34,6 +34,7 @@ public final class PromiseTest {
         promise26Digest();
         wrongInputsChangeNothingElse();
         removedNodesLeaveNoTrace();
+        exampleOfTheReadme();
         System.out.println(wrong == 0 ? "all answers are as due" : wrong + " answers are not as due");
         if (wrong != 0) {
             System.exit(1);
@@ -644,5 +645,29 @@ public final class PromiseTest {
         twin.removeLeaf(0);
         twin.removeLeaf(0);
         due("wrong inputs change their counter alone", t.digest(), twin.digest());
+    }
+
+    /** The inner rectangle is 98 by 58 at 1, 1: the sizes 30 and 5 make two rows of 84 and 14 pixels. */
+    private static void exampleOfTheReadme() {
+        TreemapLayout map = new TreemapLayout();
+        int docs = map.addNode(0, 30);
+        int code = map.addNode(0, 20);
+        int tests = map.addNode(code, 5);
+        due("README: docs", docs, 1);
+        due("README: code", code, 2);
+        due("README: tests", tests, 3);
+        due("README: size of code", map.size(code), 5);
+        due("README: setMode", map.setMode(TreemapLayout.SQUARIFIED), TreemapLayout.STRIP);
+        due("README: setPadding", map.setPadding(1), 0);
+        dueRect("README", map, docs, 1, 1, 84, 58);
+        dueRect("README", map, code, 85, 1, 14, 58);
+        dueRect("README", map, tests, 86, 2, 12, 56);
+        due("README: nodeAt", map.nodeAt(90, 30), tests);
+        // With 10 in place of 5 the first row has 74 pixels: x and width change by 10 each.
+        due("README: changeBy", map.changeBy(tests, 10), 50);
+        due("README: setSize", map.setSize(docs, 100), TreemapLayout.INVALID);
+        due("README: errorCount", map.errorCount(0), 1);
+        due("README: worstAspect", map.worstAspect(), Float.floatToIntBits(56f / 12f));
+        due("README: undo", map.undo(), 3);
     }
 }
