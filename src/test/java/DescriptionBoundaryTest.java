@@ -90,6 +90,7 @@ public final class DescriptionBoundaryTest {
         sideAndLength();
         equalWorstRatiosJoin();
         worstNotAverage();
+        worstOfTheRowAlone();
         squarifiedUsesFloats();
         totalOfTheChildrenNotPlaced();
         thicknessIsRounded();
@@ -798,6 +799,17 @@ public final class DescriptionBoundaryTest {
         dueRect("worst grows", t, 2, 0, 0, 1, 1);
         dueRect("worst grows", t, 1, 1, 0, 0, 0);
         dueRect("worst grows", t, 3, 1, 0, 0, 0);
+    }
+
+    /**
+     * "the greatest aspect ratio of the children of the row": 2.5, then 1.6 with the second child, then 5.
+     * The third child counts for no row that it does not stand in: in the row of two it would have 3.2.
+     */
+    private static void worstOfTheRowAlone() {
+        TreemapLayout t = made(SQUARIFIED, 10, 10, 2, 2, 1);
+        dueRect("worst of the row", t, 1, 0, 0, 8, 5);
+        dueRect("worst of the row", t, 2, 0, 5, 8, 5);
+        dueRect("worst of the row: next row", t, 3, 8, 0, 2, 10);
     }
 
     /** "computed as for strips": in floats, from left to right. All worst ratios are 2 here. */

@@ -575,6 +575,7 @@ public final class PromiseBoundaryTest {
         // Of 46 pixels and the total 24 each part has 1 and a remainder of 22, the last part 3 and 20;
         // of the 21 pixels that are left over the nodes 1 to 21 have one each: 2, then 1, then 3.
         due("23: last node of a full tree", t.changeBy(23, 2), 1 + 2);
+        due("23: a full tree, no change", full().changeBy(8, 8), 0);
         TreemapLayout small = made(SLICE, 40, 10, 1);
         small.addNode(1, 1);
         small.addNode(1, 1);
@@ -621,6 +622,19 @@ public final class PromiseBoundaryTest {
         due("24: nodeCount", full.nodeCount(), 23);
         due("24: parent", full.parent(22), 7);
         due("24: size", full.size(22), 22);
+        undoOfAFullTree();
+    }
+
+    /** "Restores the latest saved state": all 24 nodes of it, the last one as well. */
+    private static void undoOfAFullTree() {
+        TreemapLayout t = full();
+        t.removeLeaf(23);
+        due("24: another last node", t.addNode(0, 99), 23);
+        due("24: full again, then undone", t.undo(), 3);
+        due("24: the removal is undone", t.undo(), 2);
+        due("24: nodeCount of a full tree", t.nodeCount(), 24);
+        due("24: parent of the last node", t.parent(23), 7);
+        due("24: size of the last node", t.size(23), 23);
     }
 
     /** "0 for INVALID, 1 for REJECTED, 2 for FULL", "INVALID (which is counted, too) if kind is out of range." */
